@@ -3,11 +3,6 @@ import java.lang.reflect.Method;
 
 /** Calls by name, so that a run of calls can be told, and made on SpunModules and on the model alike. */
 final class Calls {
-    static final String[] NAMES = {
-        "begins", "sizes", "sets", "draws", "turns", "adds", "times", "over", "parts", "rests", "size", "at", "moved",
-        "spun", "row", "simple", "least", "factors", "factor", "telling", "common", "ways", "layer", "spaces", "type",
-        "clear", "tells", "word", "nulls", "poly", "back", "told", "digest"};
-
     private Calls() { }
 
     private static Method method(Object x, String name) {
@@ -18,10 +13,6 @@ final class Calls {
             }
         }
         throw new IllegalArgumentException(name);
-    }
-
-    static int arguments(Object x, String name) {
-        return method(x, name).getParameterCount();
     }
 
     static String told(String name, int... a) {
@@ -46,19 +37,22 @@ final class Calls {
         }
     }
 
+    /** Makes a call such as "sizes(0, 3)". */
+    static long make(Object x, String call) {
+        String inside = call.substring(call.indexOf('(') + 1, call.indexOf(')')).trim();
+        String[] words = inside.isEmpty() ? new String[0] : inside.split(",");
+        int[] a = new int[words.length];
+        for (int i = 0; i < a.length; i++) {
+            a[i] = Integer.parseInt(words[i].trim());
+        }
+        return on(x, call.substring(0, call.indexOf('(')).trim(), a);
+    }
+
     /** Makes the calls of a line such as "sizes(0, 3) = 3; spun(0, 1) = 3" and checks each answer. */
     static void run(Check check, Object x, String name, String line) {
         for (String step : line.split(";")) {
             String[] sides = step.split("=");
-            String call = sides[0].trim();
-            String inside = call.substring(call.indexOf('(') + 1, call.indexOf(')')).trim();
-            String[] words = inside.isEmpty() ? new String[0] : inside.split(",");
-            int[] a = new int[words.length];
-            for (int i = 0; i < a.length; i++) {
-                a[i] = Integer.parseInt(words[i].trim());
-            }
-            check.due(name + ": " + call, on(x, call.substring(0, call.indexOf('(')), a),
-                Long.parseLong(sides[1].trim()));
+            check.due(name + ": " + sides[0].trim(), make(x, sides[0]), Long.parseLong(sides[1].trim()));
         }
     }
 }
