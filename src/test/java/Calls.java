@@ -48,11 +48,17 @@ final class Calls {
         return on(x, call.substring(0, call.indexOf('(')).trim(), a);
     }
 
-    /** Makes the calls of a line such as "sizes(0, 3) = 3; spun(0, 1) = 3" and checks each answer. */
+    /** Makes the calls of a line such as "sizes(0, 3) = 3; draws(0, 5); spun(0, 1) = 3"; checks the answers given. */
     static void run(Check check, Object x, String name, String line) {
         for (String step : line.split(";")) {
+            if (step.isBlank()) {
+                continue;
+            }
             String[] sides = step.split("=");
-            check.due(name + ": " + sides[0].trim(), make(x, sides[0]), Long.parseLong(sides[1].trim()));
+            long got = make(x, sides[0]);
+            if (sides.length > 1) {
+                check.due(name + ": " + sides[0].trim(), got, Long.parseLong(sides[1].trim()));
+            }
         }
     }
 }

@@ -19,6 +19,10 @@ final class Check {
         }
     }
 
+    int asked() {
+        return asked;
+    }
+
     void ends() {
         System.out.println(asked + " checks, " + wrong + " wrong");
         if (wrong != 0 || asked == 0) {

@@ -1,6 +1,3 @@
-import java.util.ArrayList;
-import java.util.List;
-
 /**
  * Errors: the first one that applies is returned, it is counted, and nothing else changes. Every argument of every
  * method is taken out of its range, alone and together with others, and in states in which NO or FULL apply, too.
@@ -8,57 +5,8 @@ import java.util.List;
 public final class ErrorsTest {
     private static final Check CHECK = new Check();
 
-    /** All that can be seen of an object without changing it, but for the numbers of errors. */
-    private static List<Long> seen(SpunModules x) {
-        List<Long> list = new ArrayList<>();
-        for (int what = 3; what <= 5; what++) {
-            list.add((long) x.told(what));
-        }
-        for (int k = 0; k < 4; k++) {
-            int n = x.size(k);
-            list.add((long) n);
-            for (int i = 0; i < n; i++) {
-                for (int j = 0; j < n; j++) {
-                    list.add((long) x.at(k, 0, i, j));
-                    list.add((long) x.at(k, 1, i, j));
-                    list.add((long) x.word(k, i, j));
-                }
-            }
-        }
-        return list;
-    }
-
-    /** What undoing everything and reading the text would show; the object is used up by it. */
-    private static List<Long> hidden(SpunModules x) {
-        List<Long> list = new ArrayList<>();
-        while (x.told(3) > 0) {
-            list.add((long) x.back());
-            list.addAll(seen(x));
-        }
-        list.add((long) x.tells());
-        list.addAll(seen(x));
-        return list;
-    }
-
-    private static SpunModules made(String before) {
-        SpunModules x = new SpunModules();
-        for (String call : before.split(";")) {
-            Calls.make(x, call);
-        }
-        return x;
-    }
-
     private static void fails(String before, int code, String name, int... a) {
-        SpunModules x = made(before);
-        String told = before + ": " + Calls.told(name, a);
-        int[] counts = {x.told(0), x.told(1), x.told(2)};
-        List<Long> state = seen(x);
-        CHECK.due(told, Calls.on(x, name, a), code);
-        CHECK.holds(told + " changed something", state.equals(seen(x)));
-        for (int what = 0; what < 3; what++) {
-            CHECK.due(told + ", then told(" + what + ")", x.told(what), counts[what] + (what == -2 - code ? 1 : 0));
-        }
-        CHECK.holds(told + " changed something hidden", hidden(made(before)).equals(hidden(x)));
+        Refusals.refused(CHECK, before, Calls.told(name, a), code);
     }
 
     /** The first and last allowed value of each argument for one state; the others are BAD. */
