@@ -62,15 +62,19 @@ public final class RoomTest {
         CHECK.holds("an object has " + room[0] + " objects, at most 600", room[0] <= 600);
         CHECK.holds("an object has " + room[1] + " fields and elements, at most 7000", room[1] <= 7000);
 
-        SpunModules x = new SpunModules();
+        // each object gets ten rounds, which stay within its 512 calls
+        SpunModules[] objects = new SpunModules[42];
+        for (int i = 0; i < objects.length; i++) {
+            objects[i] = new SpunModules();
+        }
         com.sun.management.ThreadMXBean bean = (com.sun.management.ThreadMXBean) ManagementFactory.getThreadMXBean();
         long sum = 0;
         for (int seed = 0; seed < 20; seed++) {
-            sum += calls(x, seed);
+            sum += calls(objects[40 + seed / 10], seed);
         }
         long before = bean.getCurrentThreadAllocatedBytes();
         for (int seed = 0; seed < 400; seed++) {
-            sum += calls(x, seed);
+            sum += calls(objects[seed / 10], seed);
         }
         long made = bean.getCurrentThreadAllocatedBytes() - before;
         // a byte a call would be 14,000: the machine's own bookkeeping is left room
