@@ -311,6 +311,15 @@ public final class AskedBoundariesTest {
         DOC.runs(States.circle(3, 0, 3), "layer(0, 0) = 1; layer(0, 1) = 1; layer(0, 2) = 1; layer(0, 3) = -1");
         DOC.runs(States.circle(2, 0, 6), "layer(0, 0) = 3; layer(0, 1) = 3; layer(0, 2) = -1");
         DOC.runs(States.circle(3, 0, 5), "layer(0, 0) = 5; layer(0, 1) = -1");
+        // behind a larger module, and behind one over the other field: (x^2 + x + 1)^2, (x^2 + 1)^2, and chains
+        DOC.runs("sizes(0, 6); layer(0, 0) = 6; sizes(0, 4)" + companion(0, "1010"), "layer(0, 0) = 2; layer(0, 1) = 2; layer(0, 2) = -1");
+        DOC.runs("begins(3); sizes(0, 5); layer(0, 0) = 5; sizes(0, 4)" + companion(0, "2010"), "layer(0, 0) = 2; layer(0, 1) = 2");
+        for (int p = 2; p <= 3; p++) {
+            for (int n = 1; n <= States.largest(5 - p); n++) {
+                DOC.runs(States.zero(p, 0, States.largest(p)), "layer(0, 0) = " + States.largest(p), States.chain(5 - p, 0, n),
+                    "layer(0, 0) = 1; layer(0, " + (n - 1) + ") = 1; layer(0, " + n + ") = -1");
+            }
+        }
         DOC.says(24, "NONE if there is no such layer");
         for (int p = 2; p <= 3; p++) {
             for (int n = 1; n <= States.largest(p); n++) {
