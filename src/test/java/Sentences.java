@@ -1,6 +1,7 @@
 import java.io.IOException;
 import java.nio.file.Files;
 import java.nio.file.Path;
+import java.nio.file.StandardOpenOption;
 import java.util.ArrayList;
 import java.util.HashMap;
 import java.util.List;
@@ -12,8 +13,10 @@ import java.util.Map;
  * that gives an argument's range, an answer or an error must have been quoted.
  */
 final class Sentences {
-    /** The part of the document before the promises. */
+    /** The part of the document before the promises, and the one behind them. */
     static final int DESCRIPTION = 0;
+    static final int NOT_PROMISED = 35;
+    static final Path DOCUMENT = Path.of("../shared/DOC.md");
     private static final int PROMISES = 34;
     private static final int ALL = 300;
 
@@ -27,6 +30,13 @@ final class Sentences {
         endsSentence();
         current = (promise == DESCRIPTION ? "description" : "promise " + promise) + ", \"" + sentence + "\"";
         checksBefore = check.asked();
+        quoted.computeIfAbsent(promise, any -> new ArrayList<>()).add(sentence);
+    }
+
+    /** Quotes a sentence that leaves something free, so that there is nothing to test. */
+    void leavesFree(int promise, String sentence) {
+        endsSentence();
+        current = "";
         quoted.computeIfAbsent(promise, any -> new ArrayList<>()).add(sentence);
     }
 
@@ -122,9 +132,8 @@ final class Sentences {
     /** Prints what was wrong; the promises from the first to the last must have been quoted as a whole. */
     void ends(int first, int last) throws IOException {
         endsSentence();
-        Path path = Path.of("../shared/DOC.md");
-        if (Files.isReadable(path)) {
-            Map<Integer, String> sections = sections(Files.readString(path));
+        if (Files.isReadable(DOCUMENT)) {
+            Map<Integer, String> sections = sections();
             for (Map.Entry<Integer, List<String>> entry : quoted.entrySet()) {
                 for (String sentence : entry.getValue()) {
                     check.holds("the document says: " + entry.getKey() + ": " + sentence,
@@ -135,15 +144,34 @@ final class Sentences {
                 quotedAsAWhole(promise, sections.getOrDefault(promise, ""));
             }
         } else {
-            System.out.println(path + " is not there: the quotes are not looked up");
+            System.out.println(DOCUMENT + " is not there: the quotes are not looked up");
         }
+        writesQuotes();
         check.ends();
     }
 
-    private static Map<Integer, String> sections(String document) {
+    /** For WholeDocument, which looks whether the tests have quoted all of the document together. */
+    private void writesQuotes() throws IOException {
+        String file = System.getProperty("quotes");
+        if (file == null) {
+            return;
+        }
+        List<String> lines = new ArrayList<>();
+        for (Map.Entry<Integer, List<String>> entry : quoted.entrySet()) {
+            for (String sentence : entry.getValue()) {
+                lines.add(entry.getKey() + "\t" + plain(sentence));
+            }
+        }
+        Files.write(Path.of(file), lines, StandardOpenOption.CREATE, StandardOpenOption.APPEND);
+    }
+
+    /** The document's text: what is before the promises, each promise, and what is behind them. */
+    static Map<Integer, String> sections() throws IOException {
+        String document = Files.readString(DOCUMENT);
         Map<Integer, String> sections = new HashMap<>();
         int from = document.indexOf("## Promise 1:");
         sections.put(DESCRIPTION, document.substring(0, from));
+        sections.put(NOT_PROMISED, document.substring(document.indexOf("## Not promised")));
         for (int promise = 1; promise <= PROMISES; promise++) {
             int start = document.indexOf("## Promise " + promise + ":");
             int end = document.indexOf("\n## ", start);
@@ -152,7 +180,8 @@ final class Sentences {
         return sections;
     }
 
-    private static String plain(String text) {
+    /** Line ends and blanks are all one. */
+    static String plain(String text) {
         return text.replaceAll("\\s+", " ").trim();
     }
 

@@ -1,3 +1,6 @@
+import java.util.ArrayList;
+import java.util.List;
+
 /** Lines of calls that bring a new object into a state. */
 final class States {
     /** Four modules of different sizes, a text that is no word, another word than the first one, and two errors. */
@@ -55,6 +58,29 @@ final class States {
 
     static String sets(int k, int g, int i, int j, int v) {
         return ";" + Calls.told("sets", k, g, i, j, v);
+    }
+
+    /** The field, and module 0 as a sum of two drawn modules in another basis: it has invariant subspaces of many kinds. */
+    static String sum(int p, int first, int second, int seed) {
+        int n = first + second;
+        return drawn(p, 1, first, seed) + ";sizes(2, " + second + ");draws(2, " + (seed + 1) + ");adds(0, 1, 2);turns(0, 0, " + (n - 1)
+            + ", 1);turns(0, " + (n - 1) + ", 0, " + (p - 1) + ");sizes(1, 1);sizes(2, 1)";
+    }
+
+    /** Lines that make module 0 of the size n: drawn ones, sums, chains, circles and simple ones. */
+    static List<String> many(int p, int n) {
+        List<String> list = new ArrayList<>(List.of(zero(p, 0, n), chain(p, 0, n), circle(p, 0, n), simple(p, 0, n)));
+        for (int seed = 1; seed <= 4; seed++) {
+            list.add(drawn(p, 0, n, 100 * n + seed));
+        }
+        for (int first = 1; first < n; first++) {
+            list.add(sum(p, first, n - first, 10 * n + first));
+        }
+        if (n > 1) {
+            // one row less than a circle: b goes back from the middle
+            list.add(chain(p, 0, n) + sets(0, 1, n / 2, 0, 1) + sets(0, 1, n - 1, n - 1, p - 1));
+        }
+        return list;
     }
 
     static String typed(String text) {
